@@ -2,6 +2,7 @@
 public final class DoneTest {
     public static void main(String[] args) {
         promise9();
+        promise9Alone();
         promise9Forgets();
         promise10();
         promise11();
@@ -47,6 +48,45 @@ public final class DoneTest {
         Due.is("two yet", 2, x.count(5));
         Due.is("one more act", 2, x.become(0, 3));
         Due.is("is one more", 3, x.count(5));
+    }
+
+    /** Each act undone by itself, where its numbers are those of other words and lines, too. */
+    private static void promise9Alone() {
+        String text = "q1,2;1ta,2te;1ti,4to,5tu;2ba;3be,4bi;";
+        FeetAndRhymes x = Due.told(text);
+        Due.spell(x, 0, "stone");
+        for (int w = 0; w < 8; w++) {
+            for (int k = 1; k <= 5; k++) {
+                if (x.kind(w) != k) {
+                    x.become(w, k);
+                    undone(x, text, "becoming " + k + " of " + w);
+                }
+            }
+            if (w != 5) {
+                x.take(w);
+                undone(x, text, "taking of " + w);
+            }
+            for (int other = 0; other < 8; other++) {
+                if (other != w) {
+                    x.swap(w, other);
+                    undone(x, text, "change of " + w + " and " + other);
+                }
+            }
+        }
+        for (int l = 0; l < 4; l++) {
+            for (int place = 0; place <= x.line(l, 0); place++) {
+                x.put(l, place, 3, 0, 5);
+                undone(x, text, "putting in at " + place + " of " + l);
+            }
+        }
+        x.metre(0, 1);
+        undone(x, text, "another metre");
+    }
+
+    private static void undone(FeetAndRhymes x, String text, String what) {
+        Due.is("an act: " + what, 1, x.count(5));
+        Due.is("undone: " + what, 0, x.undo());
+        Due.same("undone: " + what, text, Due.poemOf(x));
     }
 
     private static void promise9Forgets() {

@@ -144,6 +144,14 @@ public final class ForetoldTest {
         // Turned: strong weak weak strong .. costs 1.
         chance(x, 1, 5, 1, 128);
         chance(x, 99, 7, 1, 1);
+        // Weak weak strong costs nothing, one strong more 2.
+        x = Due.told("q2,1;4batabab;");
+        chance(x, 0, 3, 147, 1000);
+        chance(x, 2, 3, 273, 1000);
+        // The either ones need not stand side by side: either strong either strong.
+        x = Due.told("q0,2;4bat,1bat,4bat,1bat;");
+        chance(x, 0, 3, 49, 100);
+        chance(x, 2, 3, 91, 100);
         // Where words run together the first one's syllable is no matter: weak strong, then the one of o.
         x = Due.told("q0,1;2abu,4o;");
         chance(x, 1, 2, 1, 1);

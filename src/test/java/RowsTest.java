@@ -86,6 +86,8 @@ public final class RowsTest {
         Due.is("none at the ends", 0, x.copy(0, 6, 2, 2, 0));
         Due.is("none behind an end", Due.PLACE, x.copy(0, 7, 2, 2, 0));
         Due.is("status PLACE", 2, x.status());
+        Due.is("a good one", 1, x.copy(0, 0, 2, 0, 1));
+        Due.is("status 0", 0, x.status());
         for (int i = 0; i < 6; i++) {
             x.set(0, i, i);
         }

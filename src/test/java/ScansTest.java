@@ -121,6 +121,10 @@ public final class ScansTest {
         nearest("1batab", 1, 1, 0);
         nearest("1bat", 1, 1, 1);
         nearest("2batabab", 2, 1, 0);
+        nearest("2batab,2batab,2batab,2batab,2batab", 0, 5, 0);
+        nearest("1batab,1batab,1batab,1batab,1batab", 1, 5, 0);
+        nearest("2batabab,2batabab,2batabab,2batabab,2batabab", 2, 5, 0);
+        nearest("1batabab,1batabab,1batabab,1batabab,1batabab", 3, 5, 0);
         nearest("1batabab,1batabab", 3, 2, 0);
         // Several are alike: the lesser foot goes ahead, then the lesser number of feet.
         nearest("4batab", 0, 1, 0);
