@@ -4,6 +4,7 @@ public final class DoneTest {
         promise9();
         promise9Alone();
         promise9Forgets();
+        fullPoem();
         promise10();
         promise11();
         promise12();
@@ -102,6 +103,33 @@ public final class DoneTest {
             Due.is("feet", at % 5 + 1, x.whole(1));
         }
         Due.is("the oldest six are forgotten", Due.STATE, x.undo());
+    }
+
+    /** Promises 11 to 16 where there are as many lines and words as there can be. */
+    private static void fullPoem() {
+        String text = "q0,5;1a,1e,1i,1o,1u;2u,2o,2i,2e,2a;3ba,3be,3bi,3bo,3bu;4oa,4ab,4io,4e,4ua;";
+        FeetAndRhymes x = Due.told(text);
+        Due.is("words", 20, x.count(1));
+        Due.is("all run together", 15, x.line(1, 5));
+        Due.is("none runs together", 0, x.line(2, 5));
+        Due.is("all but ab run together", 13, x.line(3, 5));
+        Due.is("last place", 4, x.word(19, 1));
+        Due.is("syllables of the last line", 5, x.line(3, 2));
+        Due.is("tail of the last line", 2, x.line(3, 4));
+        Due.is("from end to end", 20, x.swap(0, 19));
+        undone(x, text, "change of the ends");
+        x.row(0, 0, 1);
+        for (int l = 0; l < 4; l++) {
+            Due.is("full", Due.FULL, x.put(l, 5, 1, 0, 1));
+        }
+        for (int w = 0; w < 20; w++) {
+            Due.is("four are left", 4, x.take(w));
+            Due.is("one is less", Due.BAD, x.kind(19));
+            undone(x, text, "taking of " + w + " of 20");
+        }
+        x.take(19);
+        Due.is("put where it was", 19, x.put(3, 4, 1, 0, 1));
+        Due.same("a at the end", text.replace("4ua;", "1a;"), Due.poemOf(x));
     }
 
     private static void promise10() {

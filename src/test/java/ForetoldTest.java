@@ -27,6 +27,13 @@ public final class ForetoldTest {
         Due.is("no line -1", Due.BAD, x.ends(-1, 0));
         Due.is("no line 3", Due.BAD, x.ends(0, 3));
         Due.same("nothing changes", "q0,1;1stone;4a,1alone;1bat;", Due.poemOf(x));
+        Due.tell(x, "q0,1;1bat;1no,1bat;");
+        Due.is("all on at", 5, x.ends(1, 0));
+        x.take(2);
+        Due.is("but not one that was taken out", 1, x.ends(1, 0));
+        Due.tell(x, "q0,1;1a,1e,1i,1o,1u;1a,1e,1i,1o,1u;1a,1e,1i,1o,1u;1a,1e,1i,1o,1u;");
+        Due.is("of twenty, those on u", 1 << 4 | 1 << 9 | 1 << 14 | 1 << 19, x.ends(0, 3));
+        Due.is("the last kind of twenty", Due.BAD, x.kinds(20, 0));
     }
 
     private static void promise22() {

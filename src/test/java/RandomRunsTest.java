@@ -174,6 +174,9 @@ public final class RandomRunsTest {
     private String text() {
         StringBuilder text = new StringBuilder();
         text.append('q').append(random.nextInt(4)).append(',').append(1 + random.nextInt(5)).append(';');
+        if (random.nextInt(5) == 0) {
+            return text.append(full()).toString();
+        }
         int most = 1 + random.nextInt(5);
         int lines = random.nextInt(12) == 0 ? 5 : 1 + random.nextInt(4);
         for (int l = 0; l < lines; l++) {
@@ -189,6 +192,19 @@ public final class RandomRunsTest {
         }
         if (random.nextInt(3) == 0) {
             spoil(text);
+        }
+        return text.toString();
+    }
+
+    /** Lines with as many words as there can be, each so short that the tape has room for all. */
+    private String full() {
+        StringBuilder text = new StringBuilder();
+        for (int w = 0; w < 20; w++) {
+            text.append(1 + random.nextInt(5)).append("aeiou".charAt(random.nextInt(5)));
+            for (int i = random.nextInt(4); i > 0; i--) {
+                text.append("aeiount".charAt(random.nextInt(7)));
+            }
+            text.append(w % 5 == 4 ? ';' : ',');
         }
         return text.toString();
     }
