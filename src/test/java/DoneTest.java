@@ -54,32 +54,34 @@ public final class DoneTest {
     /** Each act undone by itself, where its numbers are those of other words and lines, too. */
     private static void promise9Alone() {
         String text = "q1,2;1ta,2te;1ti,4to,5tu;2ba;3be,4bi;";
-        FeetAndRhymes x = Due.told(text);
-        Due.spell(x, 0, "stone");
         for (int w = 0; w < 8; w++) {
             for (int k = 1; k <= 5; k++) {
-                if (x.kind(w) != k) {
-                    x.become(w, k);
+                FeetAndRhymes x = Due.told(text);
+                if (x.become(w, k) != Due.STATE) {
                     undone(x, text, "becoming " + k + " of " + w);
                 }
             }
-            if (w != 5) {
-                x.take(w);
-                undone(x, text, "taking of " + w);
+            FeetAndRhymes y = Due.told(text);
+            if (y.take(w) != Due.STATE) {
+                undone(y, text, "taking of " + w);
             }
             for (int other = 0; other < 8; other++) {
-                if (other != w) {
-                    x.swap(w, other);
-                    undone(x, text, "change of " + w + " and " + other);
+                FeetAndRhymes z = Due.told(text);
+                if (z.swap(w, other) != Due.STATE) {
+                    undone(z, text, "change of " + w + " and " + other);
                 }
             }
         }
+        int[] sizes = {2, 3, 1, 2};
         for (int l = 0; l < 4; l++) {
-            for (int place = 0; place <= x.line(l, 0); place++) {
+            for (int place = 0; place <= sizes[l]; place++) {
+                FeetAndRhymes x = Due.told(text);
+                Due.spell(x, 0, "stone");
                 x.put(l, place, 3, 0, 5);
                 undone(x, text, "putting in at " + place + " of " + l);
             }
         }
+        FeetAndRhymes x = Due.told(text);
         x.metre(0, 1);
         undone(x, text, "another metre");
     }
@@ -116,16 +118,17 @@ public final class DoneTest {
         Due.is("last place", 4, x.word(19, 1));
         Due.is("syllables of the last line", 5, x.line(3, 2));
         Due.is("tail of the last line", 2, x.line(3, 4));
-        Due.is("from end to end", 20, x.swap(0, 19));
-        undone(x, text, "change of the ends");
         x.row(0, 0, 1);
         for (int l = 0; l < 4; l++) {
             Due.is("full", Due.FULL, x.put(l, 5, 1, 0, 1));
         }
+        Due.is("from end to end", 20, x.swap(0, 19));
+        undone(x, text, "change of the ends");
         for (int w = 0; w < 20; w++) {
-            Due.is("four are left", 4, x.take(w));
-            Due.is("one is less", Due.BAD, x.kind(19));
-            undone(x, text, "taking of " + w + " of 20");
+            FeetAndRhymes y = Due.told(text);
+            Due.is("four are left", 4, y.take(w));
+            Due.is("one is less", Due.BAD, y.kind(19));
+            undone(y, text, "taking of " + w + " of 20");
         }
         x.take(19);
         Due.is("put where it was", 19, x.put(3, 4, 1, 0, 1));

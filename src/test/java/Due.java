@@ -8,6 +8,7 @@ final class Due {
 
     private static final List<String> WRONG = new ArrayList<>();
     private static int asked = 0;
+    private static String sentence = "";
 
     private Due() { }
 
@@ -19,10 +20,19 @@ final class Due {
     }
 
     static void wrong(String what) {
-        WRONG.add(what);
+        WRONG.add(sentence + what);
         if (WRONG.size() <= 40) {
-            System.out.println(what);
+            System.out.println(sentence + what);
         }
+    }
+
+    /** What is wrong from now on is told with these words ahead of it. */
+    static void under(String words) {
+        sentence = words;
+    }
+
+    static int answers() {
+        return asked;
     }
 
     /** Feeds a text byte by byte, and reads it. */
@@ -51,7 +61,8 @@ final class Due {
     static String spelled(FeetAndRhymes x, int word) {
         StringBuilder text = new StringBuilder();
         text.append(x.kind(word));
-        for (int i = 0; i < x.word(word, 2); i++) {
+        int letters = x.word(word, 2);
+        for (int i = 0; i < letters; i++) {
             text.append((char) ('a' + x.word(word, 10 + i)));
         }
         return text.toString();
@@ -60,13 +71,15 @@ final class Due {
     /** The poem, as it would be told. */
     static String poemOf(FeetAndRhymes x) {
         StringBuilder text = new StringBuilder();
-        if (x.count(2) == 0) {
+        int lines = x.count(2);
+        if (lines == 0) {
             return "";
         }
         text.append('q').append(x.whole(0)).append(',').append(x.whole(1)).append(';');
-        for (int l = 0; l < x.count(2); l++) {
+        for (int l = 0; l < lines; l++) {
             int first = x.line(l, 1);
-            for (int w = 0; w < x.line(l, 0); w++) {
+            int words = x.line(l, 0);
+            for (int w = 0; w < words; w++) {
                 text.append(w == 0 ? "" : ",").append(spelled(x, first + w));
             }
             text.append(';');

@@ -8,7 +8,9 @@ import java.util.Random;
 
 /** All promises: random runs of calls, by the class and by the oracle; none of them may throw. */
 public final class RandomRunsTest {
-    private static final int RUNS = 1500, CALLS = 400;
+    private static final int RUNS = 8000;
+    /** The document promises nothing of an object's calls behind these. */
+    private static final int CALLS = 512, CALLS_TO_LOOK = 90;
     private static final int[] EDGES = {Integer.MIN_VALUE, Integer.MIN_VALUE + 1, -1000000, -11, -10, -2, -1, 0, 1, 2,
         3, 4, 5, 6, 7, 8, 9, 10, 11, 12, 16, 20, 21, 25, 26, 39, 40, 41, 99, 100, 127, 128, 130, 255, 256, 32768,
         65535, 999999, 1000000, Integer.MAX_VALUE - 10, Integer.MAX_VALUE - 1, Integer.MAX_VALUE};
@@ -19,6 +21,7 @@ public final class RandomRunsTest {
     private final Oracle oracle = new Oracle();
     private final List<String> told = new ArrayList<>();
     private final int run;
+    private boolean wrong;
 
     private RandomRunsTest(int run) {
         this.run = run;
@@ -47,7 +50,8 @@ public final class RandomRunsTest {
         if (random.nextInt(10) > 0) {
             good = tell();
         }
-        for (int c = 0; c < CALLS && good; c++) {
+        int look = random.nextInt(3) == 0 ? CALLS_TO_LOOK : 0;
+        while (good && told.size() < CALLS - look) {
             int choice = random.nextInt(100);
             if (choice < 2) {
                 good = tell();
@@ -61,24 +65,25 @@ public final class RandomRunsTest {
                 Method m = open.get(random.nextInt(open.size()));
                 good = m.getName().equals("poem") && random.nextInt(4) > 0 || callNamed(open, m.getName());
             }
-            good = good && call("status") && call("count", random.nextInt(7)) && call("fault");
+            good = good && (random.nextInt(3) > 0 || call("status"))
+                    && (random.nextInt(3) > 0 || call("count", random.nextInt(7)));
         }
-        return good && look();
+        look();
+        return !wrong;
     }
 
-    /** Everything that can be seen of the poem and the rows' number. */
-    private boolean look() throws Exception {
+    /** What can be seen of the poem by the calls that are left, words and lines in any order. */
+    private void look() throws Exception {
         boolean good = true;
         for (int what = 0; what < 8 && good; what++) {
             good = call("count", what) && call("whole", what);
         }
-        for (int w = 0; w < 21 && good; w++) {
-            for (int what = 0; what < 19 && good; what++) {
-                good = call("word", w, what) && call("line", w, what);
-            }
-            good = good && call("kind", w) && call("ask", w, 0);
+        good = good && call("fault") && call("status");
+        while (good) {
+            int word = random.nextInt(Math.max(1, oracle.count(1)));
+            int line = random.nextInt(Math.max(1, oracle.count(2)));
+            good = call("kind", word) && call("word", word, random.nextInt(19)) && call("line", line, random.nextInt(19));
         }
-        return good;
     }
 
     private boolean callNamed(List<Method> open, String name) throws Exception {
@@ -98,8 +103,8 @@ public final class RandomRunsTest {
         if (random.nextInt(14) == 0) {
             return EDGES[random.nextInt(EDGES.length)];
         }
-        int n = Math.max(1, real.count(1));
-        int lines = Math.max(1, real.count(2));
+        int n = Math.max(1, oracle.count(1));
+        int lines = Math.max(1, oracle.count(2));
         switch (name + i) {
             case "row2": return random.nextInt(12);
             case "set2": return random.nextInt(3) > 0 ? random.nextInt(26) : random.nextInt();
@@ -243,22 +248,26 @@ public final class RandomRunsTest {
 
     /** A row that tells what is, or would be by another metre or kind, so that who() has something to find. */
     private boolean tellLeasts() throws Exception {
-        int lines = real.count(2);
+        int lines = oracle.count(2);
         int row = random.nextInt(4);
         int from = random.nextInt(3);
         boolean good = call("row", row, random.nextInt(3), lines + from);
         for (int l = 0; l < lines && good; l++) {
-            int foot = random.nextInt(3) == 0 ? random.nextInt(4) : real.whole(0);
-            int least = real.scan(l, foot, real.whole(1), 0);
+            int foot = random.nextInt(3) == 0 ? random.nextInt(4) : oracle.whole(0);
+            int least = oracle.scan(l, foot, oracle.whole(1), 0);
             good = call("set", row, from + l, least == Due.NONE ? -1 : least);
         }
         for (int which = 0; which < 3 && good && lines > 0; which++) {
-            good = call("who", random.nextInt(real.count(1)), which, row, from);
+            good = call("who", random.nextInt(oracle.count(1)), which, row, from);
         }
         return good;
     }
 
+    /** Answers whether the run goes on: the answers are alike, and there are calls left. */
     private boolean call(String name, int... args) throws Exception {
+        if (told.size() == CALLS) {
+            return false;
+        }
         Class<?>[] types = new Class<?>[args.length];
         Arrays.fill(types, int.class);
         Object[] values = Arrays.stream(args).boxed().toArray();
@@ -271,10 +280,11 @@ public final class RandomRunsTest {
         } catch (InvocationTargetException e) {
             Due.wrong("run " + run + " call " + told.size() + ": " + text + " threw " + e.getCause() + " behind "
                     + told.subList(Math.max(0, told.size() - 20), told.size()));
+            wrong = true;
             return false;
         }
         if (got != want) {
-            System.out.println("poem: " + Due.poemOf(real));
+            wrong = true;
             System.out.println("behind " + told.subList(Math.max(0, told.size() - 20), told.size()));
         }
         Due.is("run " + run + " call " + told.size() + ": " + text, want, got);

@@ -162,7 +162,7 @@ public final class ScansTest {
 
     private static void whole(FeetAndRhymes x, int... want) {
         for (int what = 0; what < want.length; what++) {
-            Due.is("whole " + what + " of " + Due.poemOf(x), want[what], x.whole(what));
+            Due.is("whole " + what, want[what], x.whole(what));
         }
     }
 
