@@ -287,6 +287,16 @@ final class EdgesOfActs {
         Due.is("the first of all", 0, x.put(0, 0, 5, 0, 1));
         Due.same("where they stand", "q0,1;5a,1ta,1ta;1ta;5a,1ta,1ta,1ta,5a;5a,1ta,5a;", Due.poemOf(x));
         Due.is("words", 12, x.count(1));
+        FeetAndRhymes full = Due.told("q0,1;1ta,1ta,1ta,1ta,1ta;1ta,1ta,1ta,1ta,1ta;1ta,1ta,1ta,1ta,1ta;1ta,1ta,1ta,1ta;");
+        full.row(0, 0, 1);
+        Due.is("a twentieth word", 19, full.put(3, 4, 5, 0, 1));
+        Due.is("undone", 0, full.undo());
+        Due.is("a twentieth word ahead of the last", 18, full.put(3, 3, 5, 0, 1));
+        Due.is("its kind", 5, full.kind(18));
+        Due.is("the last one", 1, full.kind(19));
+        Due.is("undone", 0, full.undo());
+        Due.is("the last one", 1, full.kind(18));
+        Due.is("no twentieth", Due.BAD, full.kind(19));
     }
 
     private static void promise11Bad() {
@@ -405,6 +415,15 @@ final class EdgesOfActs {
         Due.is("the first of two", 1, x.take(0));
         Due.same("what is left", "q0,1;2te;4to;3bi;", Due.poemOf(x));
         Due.is("five acts", 5, x.count(5));
+        for (int w = 0; w < 20; w++) {
+            FeetAndRhymes full = Due.told("q0,1;1a,2a,3a,4a,5a;1e,2e,3e,4e,5e;1i,2i,3i,4i,5i;1o,2o,3o,4o,5o;");
+            Due.is("word " + w + " of twenty", 4, full.take(w));
+            Due.is("there is no twentieth then", Due.BAD, full.kind(19));
+            Due.is("the next one has its number", w == 19 ? Due.BAD : (w + 1) % 5 + 1, full.kind(w));
+            Due.is("undone", 0, full.undo());
+            Due.is("it is there again", w % 5 + 1, full.kind(w));
+            Due.is("the last is there again", 5, full.kind(19));
+        }
     }
 
     private static void promise12Bad() {
