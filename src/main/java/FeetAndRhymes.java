@@ -36,9 +36,7 @@ public final class FeetAndRhymes {
     private static final int[] SCHEME_NAMES = {0x0011, 0x0101, 0x0110, 0x0000, 0x0121};
 
     private final Row[] rows = new Row[ROWS];
-    private final int[] tape = new int[TAPE_BYTES];
-    private int taped;
-    private final Reader reader = new Reader(tape);
+    private final Reader reader = new Reader();
     private final Poem verse;
     private final Poem draft;
     private final Poem[] images = new Poem[IMAGES];
@@ -132,17 +130,17 @@ public final class FeetAndRhymes {
         if (letter < 0 || letter > 255) {
             return BAD;
         }
-        if (taped >= TAPE_BYTES) {
+        if (reader.length >= TAPE_BYTES) {
             return FULL;
         }
-        tape[taped] = letter;
-        taped++;
-        return taped;
+        reader.tape[reader.length] = letter;
+        reader.length++;
+        return reader.length;
     }
 
     public int poem() {
-        reader.readInto(draft, taped);
-        taped = 0;
+        reader.readInto(draft);
+        reader.length = 0;
         if (reader.fault != 0) {
             latestFault = reader.fault;
             return FAULT_PLACES - reader.place;
@@ -483,7 +481,7 @@ public final class FeetAndRhymes {
             case 3: return verse.allLetters();
             case 4: return verse.allSyllables();
             case 5: return acts.kept;
-            case 6: return taped;
+            case 6: return reader.length;
             default: return BAD;
         }
     }
@@ -1091,23 +1089,18 @@ public final class FeetAndRhymes {
     }
 
     /**
-     * Reads a tape from its first byte on; it goes no further than the first fault, as that one
-     * alone is told.
+     * Has the tape and reads it from its first byte on; it goes no further than the first fault, as
+     * that one alone is told.
      */
     private static final class Reader {
         final int[] letters = new int[LETTERS];
-        final int[] bytes;
+        final int[] tape = new int[TAPE_BYTES];
         int length;
         int at;
         int fault;
         int place;
 
-        Reader(int[] tape) {
-            bytes = tape;
-        }
-
-        void readInto(Poem poem, int taped) {
-            length = taped;
+        void readInto(Poem poem) {
             at = 0;
             fault = 0;
             place = 0;
@@ -1120,7 +1113,7 @@ public final class FeetAndRhymes {
         }
 
         int byteAt(int i) {
-            return i >= 0 && i < length && i < bytes.length ? bytes[i] : -1;
+            return i >= 0 && i < length && i < TAPE_BYTES ? tape[i] : -1;
         }
 
         boolean isFigure(int i) {

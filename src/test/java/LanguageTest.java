@@ -112,7 +112,23 @@ public final class LanguageTest {
             Due.is("in the library's list: " + library.group(), 1,
                     library.group().matches("System\\.arraycopy|Math\\.(abs|min|max)|Integer\\.bitCount") ? 1 : 0);
         }
+        handsOutNothing(code);
         methodLengths(code);
+    }
+
+    /** Rule 12: what a field begins with is made without the object's other fields. */
+    private static void handsOutNothing(String code) {
+        Matcher begin = Pattern.compile("(?m)^ +(private )?(final )?[\\w\\[\\]]+ \\w+ = new \\w+\\(([^)]*)\\);").matcher(code);
+        int seen = 0;
+        while (begin.find()) {
+            boolean local = begin.group(1) == null && begin.group(2) == null;
+            if (!local) {
+                Due.same("made without other fields: " + begin.group().trim(), "", begin.group(3));
+                seen++;
+            }
+        }
+        Due.is("fields were seen that begin with an object", 1, seen > 0 ? 1 : 0);
+        Due.is("no this", 0, Pattern.compile("\\bthis\\b").matcher(code).find() ? 1 : 0);
     }
 
     private static void methodLengths(String code) {
